@@ -1,0 +1,172 @@
+import java.util.function.Supplier;
+
+/**
+ * All that can be seen of an object, as a text. Each group of questions is put to an object of its own, so that
+ * none is asked more than 512 calls, and some can be put by calls that change it.
+ */
+final class Observation {
+    private interface Question {
+        Object ask();
+    }
+
+    private final StringBuilder seen = new StringBuilder();
+
+    static String of(Supplier<TrunkYards> same) {
+        Observation o = new Observation();
+        o.tracks(same.get());
+        o.tracksByReplay(same.get());
+        o.wagons(same.get());
+        o.calls(same.get());
+        o.openBookings(same.get());
+        o.trunksAndLines(same.get());
+        o.bookings(same.get());
+        o.bookedWagons(same.get());
+        o.follows(same.get());
+        o.ticks(same.get());
+        o.trains(same.get());
+        return o.seen.toString();
+    }
+
+    private boolean note(String name, Question question) {
+        String answer;
+        try {
+            answer = String.valueOf(question.ask());
+        } catch (RuntimeException e) {
+            answer = e.getClass().getSimpleName();
+        }
+        seen.append(name).append(' ').append(answer).append('\n');
+        return !answer.startsWith("I");
+    }
+
+    private void tracks(TrunkYards x) {
+        for (int row = 0; row < 15; row++) {
+            int yard = row / 5;
+            int track = row % 5;
+            note("on " + row, () -> x.on(yard, track));
+            for (int i = 0, place = 0; i == place; i++) {
+                int p = place;
+                if (note("at " + row + " " + p, () -> x.at(yard, track, p))) {
+                    place++;
+                }
+            }
+        }
+    }
+
+    private void tracksByReplay(TrunkYards x) {
+        for (int row = 0; row < 15; row++) {
+            int yard = row / 5;
+            int track = row % 5;
+            for (int place = 0; place < 6; place++) {
+                int p = place;
+                note("replay " + row + " " + p, () -> x.atByReplay(yard, track, p));
+            }
+        }
+    }
+
+    private void wagons(TrunkYards x) {
+        for (int wagon = 0; wagon <= 30; wagon++) {
+            int w = wagon;
+            note("where " + w, () -> x.where(w));
+            note("carried " + w, () -> x.carried(w));
+            note("promised " + w, () -> x.promised(w));
+        }
+    }
+
+    private void calls(TrunkYards x) {
+        note("busy", x::busy);
+        for (int customer = 0; customer < 6; customer++) {
+            int c = customer;
+            note("callOf " + c, () -> x.callOf(c));
+        }
+        for (int call = 0; call <= 60; call++) {
+            int c = call;
+            note("way " + c, () -> x.way(c));
+        }
+    }
+
+    private void openBookings(TrunkYards x) {
+        for (int call = 0; call <= 60; call++) {
+            int c = call;
+            note("confirm " + c, () -> x.confirm(c));
+        }
+    }
+
+    private void trunksAndLines(TrunkYards x) {
+        for (int trunk = 0; trunk < 2; trunk++) {
+            int t = trunk;
+            note("trunk 0 1 " + t, () -> x.trunk(0, 1, t));
+            note("trunk 0 2 " + t, () -> x.trunk(0, 2, t));
+            note("trunk 1 2 " + t, () -> x.trunk(1, 2, t));
+        }
+        for (int yard = 0; yard < 3; yard++) {
+            int y = yard;
+            note("setLines " + y, () -> x.setLines(y, 3));
+        }
+    }
+
+    private void bookings(TrunkYards x) {
+        note("bookings", x::bookings);
+        for (int booking = 0; booking <= 40; booking++) {
+            int b = booking;
+            note("state " + b, () -> x.state(b));
+            note("wagons " + b, () -> x.wagons(b));
+            note("lapses " + b, () -> x.lapses(b));
+        }
+    }
+
+    private void bookedWagons(TrunkYards x) {
+        int bookings = x.bookings();
+        for (int booking = 0; booking < bookings; booking++) {
+            int b = booking;
+            for (int i = 0, place = 0; i == place; i++) {
+                int p = place;
+                if (note("wagonOf " + b + " " + p, () -> x.wagonOf(b, p))) {
+                    place++;
+                }
+            }
+        }
+    }
+
+    private void follows(TrunkYards x) {
+        for (int pair = 0; pair < 16; pair++) {
+            int first = pair / 4;
+            int next = pair % 4;
+            note("follow " + pair, () -> x.follow(first, next));
+        }
+    }
+
+    private void ticks(TrunkYards x) {
+        int left = 0;
+        for (int step = 100; step > 0; step /= 10) {
+            int s = step;
+            while (mayPass(x, s)) {
+                left += step;
+            }
+        }
+        seen.append("ticks left ").append(left).append('\n');
+    }
+
+    private static boolean mayPass(TrunkYards x, int ticks) {
+        try {
+            x.pass(ticks);
+            return true;
+        } catch (IllegalStateException e) {
+            return false;
+        }
+    }
+
+    private void trains(TrunkYards x) {
+        note("trains", x::trains);
+        for (int train = 0; train <= 40; train++) {
+            int t = train;
+            for (int track = 0; track < 5; track++) {
+                int to = track;
+                note("arrive " + t + " " + to, () -> x.arrive(t, to));
+            }
+        }
+        for (int wagon = 0; wagon < 30; wagon++) {
+            int w = wagon;
+            note("where then " + w, () -> x.where(w));
+        }
+    }
+}
