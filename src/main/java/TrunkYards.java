@@ -825,7 +825,6 @@ public final class TrunkYards {
 
         void end(int call) {
             ongoingCalls[customers[call]] = NONE;
-            openBookings[call] = NONE;
             occupy(firstTrunks[call], NONE);
             occupy(secondTrunks[call], NONE);
         }

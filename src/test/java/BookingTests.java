@@ -21,7 +21,8 @@ final class BookingTests {
     }
 
     static void promise26_countsBookings() {
-        new Scene().due(0, x -> x.bookings()).due(0, x -> x.call(0, 0)).due(-1, x -> x.ask(0, 0)).due(0, x -> x.bookings());
+        new Scene().due(0, x -> x.bookings()).due(0, x -> x.call(0, 0)).due(-1, x -> x.ask(0, 0))
+            .due(0, x -> x.bookings());
         twoBookings().due(2, x -> x.bookings()).due(1, x -> x.hangUp(0)).due(2, x -> x.bookings());
     }
 
@@ -43,7 +44,8 @@ final class BookingTests {
 
     static void promise28_countsWagonsOfADoneBooking() {
         twoBookings().due(2, x -> x.shunt(0, 0, 1, 1)).due(0, x -> x.depart(0, 1, 1)).due(2, x -> x.wagons(0))
-            .due(2, x -> x.arrive(0, 0)).due(2, x -> x.wagons(0)).due(1, x -> x.wagonOf(0, 0)).due(2, x -> x.wagonOf(0, 1));
+            .due(2, x -> x.arrive(0, 0)).due(2, x -> x.wagons(0)).due(1, x -> x.wagonOf(0, 0))
+            .due(2, x -> x.wagonOf(0, 1));
     }
 
     static void promise29_listsWagonsInTheOrderOfAsking() {

@@ -105,6 +105,17 @@ final class CallTests {
             .due(1, x -> x.ask(1, 3)).due(-1, x -> x.ask(1, 3)).due(1, x -> x.wagons(1));
     }
 
+    static void promise13_findsNoneOfAnotherYardOrATrain() {
+        for (int yard = 0; yard < 3; yard++) {
+            int y = yard;
+            int next = (y + 1) % 3;
+            new Scene()
+                .due(0, x -> x.wagon(y, 0)).due(1, x -> x.wagon(next, 0)).due(2, x -> x.wagon((y + 2) % 3, 4))
+                .due(0, x -> x.call(y, y)).due(0, x -> x.ask(0, 0)).due(0, x -> x.confirm(0))
+                .due(-1, x -> x.ask(0, 0)).due(0, x -> x.depart(y, 0, next)).due(-1, x -> x.ask(0, 0));
+        }
+    }
+
     static void promise13_opensAndAdds() {
         threeWagonsAndACall()
             .due(2, x -> x.ask(0, 3)).due(1, x -> x.bookings()).due(0, x -> x.state(0))
@@ -170,7 +181,8 @@ final class CallTests {
             .due(2, x -> x.ask(0, 3)).due(0, x -> x.cut(0, 1, 0))
             .due(1, x -> x.call(4, 0)).refused(Scene.STATE, x -> x.resume(1, 0))
             .due(2, x -> x.call(1, 1)).refused(Scene.STATE, x -> x.resume(2, 0))
-            .due(0, x -> x.hangUp(2)).refused(Scene.STATE, x -> x.resume(2, 0)).refused(Scene.STATE, x -> x.resume(0, 0))
+            .due(0, x -> x.hangUp(2)).refused(Scene.STATE, x -> x.resume(2, 0))
+            .refused(Scene.STATE, x -> x.resume(0, 0))
             .due(3, x -> x.call(1, 0)).due(1, x -> x.resume(3, 0));
     }
 
@@ -191,7 +203,8 @@ final class CallTests {
         threeWagonsAndACall()
             .due(2, x -> x.ask(0, 3)).due(1, x -> x.ask(0, 3)).refused(Scene.STATE, x -> x.cancel(0, 0))
             .due(0, x -> x.confirm(0)).due(2, x -> x.cancel(0, 0)).due(5, x -> x.state(0))
-            .due(-1, x -> x.promised(2)).due(-1, x -> x.promised(1)).due(2, x -> x.wagons(0)).due(1, x -> x.wagonOf(0, 1))
+            .due(-1, x -> x.promised(2)).due(-1, x -> x.promised(1)).due(2, x -> x.wagons(0))
+            .due(1, x -> x.wagonOf(0, 1))
             .refused(Scene.STATE, x -> x.cancel(0, 0)).due(2, x -> x.ask(0, 1));
     }
 

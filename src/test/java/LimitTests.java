@@ -58,20 +58,21 @@ final class LimitTests {
             int t = train;
             int yard = t % 3;
             int to = (t + 1) % 3;
-            s.due(t, x -> x.call(yard, yard)).due(0, x -> x.ask(t, 0)).due(t, x -> x.confirm(t)).due(0, x -> x.hangUp(t));
+            s.due(t, x -> x.call(yard, yard)).due(0, x -> x.ask(t, 0)).due(t, x -> x.confirm(t))
+                .due(0, x -> x.hangUp(t));
             s.due(t, x -> x.depart(yard, 0, to)).due(1, x -> x.arrive(t, 0));
         }
         s.due(40, x -> x.trains()).due(10, x -> x.where(0)).due(0, x -> x.atByReplay(1, 0, 0));
     }
 
-    static void promise08_replaysFiveHundredEvents() {
+    static void promise08_replaysAllThatTheCallsCanDo() {
         Scene s = new Scene().due(0, x -> x.wagon(0, 0));
-        for (int i = 0; i < 509; i++) {
+        for (int i = 0; i < 510; i++) {
             int from = i % 5;
             int to = (i + 1) % 5;
             s.due(1, x -> x.shunt(0, from, to, 1));
         }
-        s.due(0, x -> x.at(0, 4, 0)).due(0, x -> x.atByReplay(0, 4, 0));
+        s.due(0, x -> x.atByReplay(0, 0, 0));
     }
 
     /** What is answered behind the 512th call is free, but the machine may not throw there either. */

@@ -153,7 +153,12 @@ public final class Model {
     }
 
     private String lowestFree(int one, int other) {
-        return trunk(one, other, 0) == -1 ? name(one, other, 0) : trunk(one, other, 1) == -1 ? name(one, other, 1) : null;
+        for (int trunk = 0; trunk < 2; trunk++) {
+            if (trunk(one, other, trunk) == -1) {
+                return name(one, other, trunk);
+            }
+        }
+        return null;
     }
 
     public int ask(int call, int grain) {

@@ -43,11 +43,10 @@ final class Observation {
             int yard = row / 5;
             int track = row % 5;
             note("on " + row, () -> x.on(yard, track));
-            for (int i = 0, place = 0; i == place; i++) {
+            boolean more = true;
+            for (int place = 0; more && place <= 6; place++) {
                 int p = place;
-                if (note("at " + row + " " + p, () -> x.at(yard, track, p))) {
-                    place++;
-                }
+                more = note("at " + row + " " + p, () -> x.at(yard, track, p));
             }
         }
     }
@@ -118,11 +117,10 @@ final class Observation {
         int bookings = x.bookings();
         for (int booking = 0; booking < bookings; booking++) {
             int b = booking;
-            for (int i = 0, place = 0; i == place; i++) {
+            boolean more = true;
+            for (int place = 0; more && place <= 30; place++) {
                 int p = place;
-                if (note("wagonOf " + b + " " + p, () -> x.wagonOf(b, p))) {
-                    place++;
-                }
+                more = note("wagonOf " + b + " " + p, () -> x.wagonOf(b, p));
             }
         }
     }
@@ -138,8 +136,7 @@ final class Observation {
     private void ticks(TrunkYards x) {
         int left = 0;
         for (int step = 100; step > 0; step /= 10) {
-            int s = step;
-            while (mayPass(x, s)) {
+            while (left <= 10000 && mayPass(x, step)) {
                 left += step;
             }
         }

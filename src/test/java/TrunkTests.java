@@ -88,7 +88,8 @@ final class TrunkTests {
 
     static void promise25_lapsesHalfBookings() {
         new Scene()
-            .due(1, x -> x.setLines(0, 2)).due(0, x -> x.wagon(0, 0)).due(1, x -> x.wagon(0, 0)).due(2, x -> x.wagon(0, 0))
+            .due(1, x -> x.setLines(0, 2)).due(0, x -> x.wagon(0, 0)).due(1, x -> x.wagon(0, 0))
+            .due(2, x -> x.wagon(0, 0))
             .due(0, x -> x.pass(7))
             .due(0, x -> x.call(1, 0)).due(1, x -> x.call(4, 0)).due(2, x -> x.ask(0, 0)).due(1, x -> x.ask(1, 1))
             .due(0, x -> x.cut(0, 1, 0)).due(1, x -> x.cut(0, 1, 1))
