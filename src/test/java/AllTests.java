@@ -6,11 +6,13 @@ import java.util.List;
 
 /** Runs each static method of the test classes as a test, and tells of each whether it passed. */
 public final class AllTests {
-    private static final Class<?>[] CLASSES = {
+    static final Class<?>[] CLASSES = {
         YardTests.class, CallTests.class, TrunkTests.class, BookingTests.class, TrainTests.class,
-        LimitTests.class, ModelTests.class, FaceTests.class
+        LimitTests.class, ModelTests.class, FaceTests.class, DocumentTests.class,
+        YardSentences.class, StandSentences.class, CallSentences.class, TalkSentences.class,
+        TrunkSentences.class, BookingSentences.class, TrainSentences.class
     };
-    private static final int PROMISES = 33;
+    static final int PROMISES = 33;
 
     public static void main(String[] args) {
         boolean[] tested = new boolean[PROMISES + 1];
@@ -30,7 +32,7 @@ public final class AllTests {
         System.exit(failed == 0 ? 0 : 1);
     }
 
-    private static List<Method> testsOf(Class<?> tests) {
+    static List<Method> testsOf(Class<?> tests) {
         List<Method> found = new ArrayList<>();
         for (Method method : tests.getDeclaredMethods()) {
             boolean named = method.getName().startsWith("promise") || method.getName().startsWith("all");

@@ -24,6 +24,9 @@ final class Observation {
         o.follows(same.get());
         o.ticks(same.get());
         o.trains(same.get());
+        o.asks(same.get());
+        o.departures(same.get());
+        o.owners(same.get());
         return o.seen.toString();
     }
 
@@ -164,6 +167,51 @@ final class Observation {
         for (int wagon = 0; wagon < 30; wagon++) {
             int w = wagon;
             note("where then " + w, () -> x.where(w));
+        }
+    }
+
+    /** Shows the grains of open bookings, and what fits. */
+    private void asks(TrunkYards x) {
+        for (int customer = 0; customer < 6; customer++) {
+            int call = x.callOf(customer);
+            for (int grain = 0; grain < 4; grain++) {
+                int g = grain;
+                for (int many = 0; many < 3; many++) {
+                    note("ask " + call + " " + g, () -> x.ask(call, g));
+                }
+            }
+        }
+    }
+
+    private void departures(TrunkYards x) {
+        for (int row = 0; row < 15; row++) {
+            int yard = row / 5;
+            int track = row % 5;
+            note("depart " + row, () -> x.depart(yard, track, (yard + 1) % 3));
+        }
+        for (int wagon = 0; wagon < 30; wagon++) {
+            int w = wagon;
+            note("carried then " + w, () -> x.carried(w));
+        }
+    }
+
+    /** Shows of which customer and yard the first bookings are, by what each customer can do with them. */
+    private void owners(TrunkYards x) {
+        for (int customer = 0; customer < 6; customer++) {
+            int c = customer;
+            note("hangUp " + c, () -> x.hangUp(x.callOf(c)));
+        }
+        for (int pair = 0; pair < 18; pair++) {
+            int customer = pair / 3;
+            int yard = pair % 3;
+            note("call " + pair, () -> x.call(customer, yard));
+            int call = x.callOf(customer);
+            for (int booking = 0; booking < Math.min(x.bookings(), 8); booking++) {
+                int b = booking;
+                note("cancel " + b, () -> x.cancel(call, b));
+                note("resume " + b, () -> x.resume(call, b));
+            }
+            note("hangUp " + call, () -> x.hangUp(call));
         }
     }
 }
