@@ -102,6 +102,13 @@ final class TalkSentences extends Sentences {
     }
 
     @Sentence(UP_AGAIN)
+    static void promise15_takesUpThatOneAlone() {
+        new Scene().wagons(3, 0, 0).half(1, 0, 1, 0).half(1, 1, 1, 0).half(1, 2, 1, 0).due(3, x -> x.call(1, 0))
+            .due(1, x -> x.resume(3, 2)).due(1, x -> x.state(0)).due(1, x -> x.state(1)).due(0, x -> x.state(2))
+            .due(2, x -> x.confirm(3)).due(1, x -> x.resume(3, 1)).due(0, x -> x.state(1)).due(1, x -> x.state(0));
+    }
+
+    @Sentence(UP_AGAIN)
     static void promise15_isVoidWhenTheCustomerHangsUpThen() {
         halfOf(2).due(1, x -> x.call(1, 0)).due(2, x -> x.resume(1, 0)).due(2, x -> x.hangUp(1))
             .due(5, x -> x.state(0)).due(-1, x -> x.promised(1)).due(-1, x -> x.promised(2));
@@ -205,9 +212,14 @@ final class TalkSentences extends Sentences {
 
     @Sentence(RESUME_STATE)
     static void promise15_refusesOneOfAnotherYard() {
-        halfOf(1).wagons(1, 1, 0).wagons(1, 2, 0).due(1, x -> x.call(1, 1)).refused(STATE, x -> x.resume(1, 0))
-            .due(0, x -> x.hangUp(1)).due(2, x -> x.call(1, 2)).refused(STATE, x -> x.resume(2, 0))
-            .due(0, x -> x.hangUp(2)).due(3, x -> x.call(1, 0)).due(1, x -> x.resume(3, 0));
+        for (int yard = 0; yard < 3; yard++) {
+            int y = yard;
+            int next = (y + 1) % 3;
+            new Scene().wagons(1, y, 0).half(1, 2, next, y).due(1, x -> x.call(next, next))
+                .refused(STATE, x -> x.resume(1, 0)).due(0, x -> x.hangUp(1)).due(2, x -> x.call(next, (y + 2) % 3))
+                .refused(STATE, x -> x.resume(2, 0)).due(0, x -> x.hangUp(2)).due(3, x -> x.call(next, y))
+                .due(1, x -> x.resume(3, 0));
+        }
     }
 
     @Sentence(RESUME_STATE)
@@ -316,9 +328,14 @@ final class TalkSentences extends Sentences {
 
     @Sentence(CANCEL_STATE)
     static void promise16_refusesOneOfAnotherYard() {
-        firmOf(1).due(1, x -> x.call(1, 1)).refused(STATE, x -> x.cancel(1, 0)).due(0, x -> x.hangUp(1))
-            .due(2, x -> x.call(1, 2)).refused(STATE, x -> x.cancel(2, 0)).due(0, x -> x.hangUp(2))
-            .due(3, x -> x.call(1, 0)).due(1, x -> x.cancel(3, 0));
+        for (int yard = 0; yard < 3; yard++) {
+            int y = yard;
+            int next = (y + 1) % 3;
+            new Scene().wagons(1, y, 0).firm(1, 2, next, y).due(1, x -> x.call(next, next))
+                .refused(STATE, x -> x.cancel(1, 0)).due(0, x -> x.hangUp(1)).due(2, x -> x.call(next, (y + 2) % 3))
+                .refused(STATE, x -> x.cancel(2, 0)).due(0, x -> x.hangUp(2)).due(3, x -> x.call(next, y))
+                .due(1, x -> x.cancel(3, 0));
+        }
     }
 
     @Sentence(CANCEL_STATE)

@@ -53,6 +53,24 @@ final class TrainSentences extends Sentences {
     }
 
     @Sentence(UNDER_WAY)
+    static void promise31_sixBookingsAreUnderWay() {
+        Scene s = new Scene().wagons(6, 0, 0);
+        for (int booking = 0; booking < 6; booking++) {
+            s.firm(1, booking % 4, booking, 0);
+        }
+        s.due(0, x -> x.depart(0, 0, 1));
+        for (int booking = 0; booking < 6; booking++) {
+            int b = booking;
+            s.due(3, x -> x.state(b)).due(b % 4, x -> x.carried(5 - b)).due(b, x -> x.promised(5 - b));
+        }
+        s.due(6, x -> x.arrive(0, 4));
+        for (int booking = 0; booking < 6; booking++) {
+            int b = booking;
+            s.due(4, x -> x.state(b)).due(-1, x -> x.promised(b)).due(b, x -> x.at(1, 4, b));
+        }
+    }
+
+    @Sentence(UNDER_WAY)
     static void promise31_eachWagonHasCarriedItsOwnGrain() {
         new Scene().wagons(4, 0, 2).firm(1, 0, 0, 0).firm(2, 3, 0, 0).firm(1, 1, 0, 0).due(-1, x -> x.carried(3))
             .due(0, x -> x.depart(0, 2, 1)).due(0, x -> x.carried(3)).due(3, x -> x.carried(2)).due(3, x -> x.carried(1))
@@ -181,6 +199,13 @@ final class TrainSentences extends Sentences {
     static void promise32_inTheirOrderBehindThoseThatStandThere() {
         train(3).wagons(2, 2, 1).due(5, x -> x.arrive(0, 1)).due(3, x -> x.at(2, 1, 0)).due(4, x -> x.at(2, 1, 1))
             .due(0, x -> x.at(2, 1, 2)).due(1, x -> x.at(2, 1, 3)).due(2, x -> x.at(2, 1, 4));
+    }
+
+    @Sentence(ARRIVES)
+    static void promise32_leavesTheOtherTracks() {
+        train(3).wagons(3, 2, 0).wagons(3, 2, 1).wagons(3, 1, 4).due(6, x -> x.arrive(0, 0)).due(6, x -> x.at(2, 1, 0))
+            .due(8, x -> x.at(2, 1, 2)).due(3, x -> x.on(2, 1)).due(9, x -> x.at(1, 4, 0)).due(11, x -> x.at(1, 4, 2))
+            .due(3, x -> x.at(2, 0, 0)).due(2, x -> x.at(2, 0, 5));
     }
 
     @Sentence(ARRIVES)

@@ -191,6 +191,20 @@ final class YardSentences extends Sentences {
             .due(1, x -> x.at(1, 3, 2)).due(2, x -> x.at(1, 3, 3)).due(3, x -> x.at(1, 3, 4));
     }
 
+    @Sentence("Shunting takes the last wagons of a track, and puts them onto another one of the yard,"
+        + " in the order in which they stood.")
+    static void promise03_leavesTheOtherTracks() {
+        Scene s = new Scene().wagons(3, 1, 0).wagons(3, 1, 1).wagons(3, 1, 2).wagons(3, 1, 3).wagons(3, 1, 4)
+            .wagons(3, 2, 0).wagons(3, 0, 4).due(6, x -> x.shunt(1, 0, 1, 3)).due(6, x -> x.shunt(1, 3, 4, 3));
+        for (int place = 0; place < 3; place++) {
+            int p = place;
+            s.due(3 + p, x -> x.at(1, 1, p)).due(p, x -> x.at(1, 1, 3 + p)).due(6 + p, x -> x.at(1, 2, p))
+                .due(12 + p, x -> x.at(1, 4, p)).due(9 + p, x -> x.at(1, 4, 3 + p)).due(15 + p, x -> x.at(2, 0, p))
+                .due(18 + p, x -> x.at(0, 4, p));
+        }
+        s.due(3, x -> x.on(1, 2)).due(3, x -> x.on(2, 0)).due(3, x -> x.on(0, 4)).due(0, x -> x.on(1, 0));
+    }
+
     @Sentence(YARD)
     static void promise03_yard() {
         new Scene().wagons(1, 0, 0).wagons(1, 2, 0)
