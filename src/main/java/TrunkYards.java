@@ -1,6 +1,11 @@
 import java.util.Arrays;
 
-/** Grain yards and a phone exchange; ../shared/DOC.md says what each call does. */
+/**
+ * Grain yards and a phone exchange; ../shared/DOC.md says what each call does.
+ *
+ * Callers' numbers are looked at ahead of all else, and limits before anything is added. So what the classes inside
+ * hold and are given is in range, and they use it as it is.
+ */
 public final class TrunkYards {
     private static final int NONE = -1;
     private static final int CUT = -2;
